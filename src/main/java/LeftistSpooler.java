@@ -771,14 +771,11 @@ public final class LeftistSpooler {
 
         /** Reads the first word of a statement; answers false after an error or at the end. */
         boolean startsStatement() {
-            if (!isValid()) {
-                return false;
-            }
             readToken();
             if (token != WORD && token != END) {
                 fail(SYNTAX);
             }
-            return token == WORD;
+            return isValid() && token == WORD;
         }
 
         boolean isWord(String letters) {
@@ -787,7 +784,8 @@ public final class LeftistSpooler {
 
         /** Reads a name that stands in names and answers its number, or NONE after an error. */
         int knownName(Names names) {
-            if (!readName()) {
+            readToken();
+            if (!accepts(WORD, MAX_NAME)) {
                 return NONE;
             }
             int number = names.find(word);
@@ -799,19 +797,17 @@ public final class LeftistSpooler {
 
         /** Reads a name that does not stand in names; what it answers after an error is free. */
         long newName(Names names) {
-            if (readName() && names.find(word) != NONE) {
+            readToken();
+            if (accepts(WORD, MAX_NAME) && names.find(word) != NONE) {
                 fail(BAD_NAME);
             }
             return word;
         }
 
-        private boolean readName() {
-            return readKind(WORD, MAX_NAME);
-        }
-
         /** Reads a number from low to high and answers it, or NONE after an error. */
         int number(int low, int high) {
-            if (!readKind(NUMBER, MAX_DIGITS)) {
+            readToken();
+            if (!accepts(NUMBER, MAX_DIGITS)) {
                 return NONE;
             }
             if (value < low || value > high) {
@@ -822,22 +818,23 @@ public final class LeftistSpooler {
         }
 
         void semicolon() {
-            readKind(SEMICOLON, 1);
+            readToken();
+            accepts(SEMICOLON, 1);
         }
 
-        /** Reads a token of this kind and of at most so many bytes, unless there is an error. */
-        private boolean readKind(int kind, int most) {
-            if (!isValid()) {
-                return false;
-            }
-            readToken();
+        /** Tells whether the text has no error and the token is of this kind and length. */
+        private boolean accepts(int kind, int most) {
             if (token != kind || next - tokenAt > most) {
                 fail(SYNTAX);
             }
             return isValid();
         }
 
+        /** Reads the next token, but stays at the token of an error. */
         private void readToken() {
+            if (!isValid()) {
+                return;
+            }
             while (next < end && isBlank(nextByte())) {
                 next++;
             }
@@ -874,7 +871,7 @@ public final class LeftistSpooler {
                 }
                 next++;
             }
-            token = next - tokenAt > MAX_DIGITS ? WRONG : NUMBER;
+            token = NUMBER;
         }
 
         private int nextByte() {

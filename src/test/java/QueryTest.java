@@ -19,6 +19,7 @@ final class QueryTest {
         fates();
         links();
         chain();
+        chainOfMoves();
         order();
         pagesAndMinutes();
         leastLoaded();
@@ -218,6 +219,23 @@ final class QueryTest {
         Check.due("its child", 21, () -> x.parent(19));
     }
 
+    /** The same chain with the handles the other way round, made by moves. */
+    private static void chainOfMoves() {
+        Check.begin("promises 25 to 28, a chain of moves");
+        LeftistSpooler x = Texts.of("queue a 1;queue b 1;owner o;");
+        for (int i = 0; i < 40; i++) {
+            x.submit(1, 0, 60 + i, 1);
+        }
+        for (int i = 39; i >= 0; i--) {
+            x.moveJob(i, 0);
+        }
+        Check.due("height", 40, () -> x.height(0));
+        Check.due("depth", 39, () -> x.depth(39));
+        Check.due("last", 39, () -> x.jobAt(0, 39));
+        Check.due("sizes", "40 0", () -> x.size(0) + " " + x.size(1));
+        Check.due("consistent", true, () -> x.isConsistent());
+    }
+
     private static void order() {
         Check.begin("promises 26 to 29");
         LeftistSpooler x = new LeftistSpooler();
@@ -388,6 +406,9 @@ final class QueryTest {
         Check.due("a cancelled job's pages count", 4.0f / 56.0f, () -> x.printedPart());
         x.printNext(1);
         Check.due("of all queues", 7.0f / 56.0f, () -> x.printedPart());
+        LeftistSpooler fewer = Texts.of("queue a 1;owner o;job a o 1 1;job a o 1 1;job a o 1 1;job a o 1 1;");
+        Texts.setup(fewer, "queue a 1;owner o;job a o 1 1;");
+        Check.due("of a setup with fewer jobs", "1.0 1", () -> fewer.meanRank() + " " + fewer.waitingPages(0));
         LeftistSpooler none = Texts.of("queue a 1;owner o;");
         Check.due("without a job", "0.0 0.0", () -> none.meanRank() + " " + none.printedPart());
         none.submit(0, 0, 1, 9);

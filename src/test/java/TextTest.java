@@ -9,6 +9,7 @@ final class TextTest {
         appending();
         truncating();
         validSetups();
+        fullBuffer();
         setupSyntax();
         setupNumbers();
         setupNames();
@@ -80,6 +81,17 @@ final class TextTest {
         setup("queue queue 5;owner owner;queue owner 6;owner queue;queue job 7;job job owner 1 1;", "1 0 -1");
         setup("queue abcdef 5;owner abcdef;job abcdef abcdef 1 1;", "1 0 -1");
         setup("queue ab 5;queue abc 5;queue a 5;owner ab;owner a;", "0 0 -1");
+    }
+
+    private static void fullBuffer() {
+        Check.begin("promise 4, a text of 600 bytes");
+        StringBuilder text = new StringBuilder(BASE);
+        while (text.length() < 589) {
+            text.append(' ');
+        }
+        setup(text + "owner last;", "0 0 -1");
+        setup(text + "owner lastt", "-1 1 600");
+        setup(text + "owner last#", "-1 1 599");
     }
 
     private static void setupSyntax() {
@@ -209,6 +221,10 @@ final class TextTest {
         script("submit fast ann 0 1;", "1 0 -1");
         script("submit slow bob 99 99;print fast;cancel 0;priority2 99;move 3slow;merge slow fast;pause slow;resume slow;", "8 0 -1");
         script("cancel 000;", "1 0 -1");
+        // The greatest job number is in its range, though there is no such job to execute it.
+        script("cancel 39;", "0 0 -1");
+        script("priority 39 0;", "0 0 -1");
+        script("move 39 fast;", "0 0 -1");
     }
 
     private static void scriptErrors() {

@@ -237,6 +237,7 @@ final class TextTest {
         script("cancel fast;", "-1 1 7");
         script("priority 1;", "-1 1 10");
         script("prioritys 1 1;", "-1 1 0");
+        script("priorityp 1 1;", "-1 1 0");
         script("merge slow fast slow;", "-1 1 16");
         script("cancel 40;", "-1 2 7");
         script("move 40 fast;", "-1 2 5");

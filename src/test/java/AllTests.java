@@ -9,6 +9,14 @@ public final class AllTests {
         TextTest.run();
         QueryTest.run();
         ChangeTest.run();
+        BufferLimitTest.run();
+        TextLimitTest.run();
+        TextEffectLimitTest.run();
+        NumberLimitTest.run();
+        QueryLimitTest.run();
+        HeapLimitTest.run();
+        ChangeLimitTest.run();
+        RefusalTest.run();
         RoomTest.run();
         ModelTest.run();
         System.out.println(Check.all() + " answers checked, " + Check.wrongOnes() + " not as due");

@@ -52,8 +52,10 @@ final class Texts {
 
     static String output(LeftistSpooler x) {
         StringBuilder text = new StringBuilder();
-        for (int i = 0; x.outputByte(i) != LeftistSpooler.NONE; i++) {
-            text.append((char) x.outputByte(i));
+        int sign = x.outputByte(0);
+        while (sign != LeftistSpooler.NONE) {
+            text.append((char) sign);
+            sign = x.outputByte(text.length());
         }
         return text.toString();
     }

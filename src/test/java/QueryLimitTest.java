@@ -24,6 +24,7 @@ final class QueryLimitTest {
         pagesOfOwners();
         obstacles();
         forecastsOfMerging();
+        forecastsComeTrue();
         forecastOfAPosition();
         meanRank();
         printedPart();
@@ -329,6 +330,33 @@ final class QueryLimitTest {
         Check.due("rankAfterMerge", Telling.of(LeftistSpooler::new), () -> Telling.of(() -> forecast(2)));
         Check.begin("promise 44, \"a forecast never changes anything\"");
         Check.due("positionWith", Telling.of(LeftistSpooler::new), () -> Telling.of(() -> forecast(3)));
+    }
+
+    private static void forecastsComeTrue() {
+        for (int ofA = 0; ofA <= 16; ofA++) {
+            for (int ofB = 0; ofB <= 16; ofB++) {
+                String sizes = ofA + " and " + ofB + " jobs";
+                LeftistSpooler x = twoQueues(ofA, ofB);
+                int cost = x.mergeCost(0, 1);
+                int rank = x.rankAfterMerge(0, 1);
+                Check.begin("promises 42 and 43, the other way round");
+                Check.due(sizes, cost + " " + rank, () -> x.mergeCost(1, 0) + " " + x.rankAfterMerge(1, 0));
+                int before = x.comparisons();
+                x.mergeQueues(0, 1);
+                Check.begin("promise 42, \"the number of comparisons that mergeQueues(from, into) would make\"");
+                Check.due(sizes, x.comparisons() - before, () -> cost);
+                Check.begin("promise 43, \"the rank of the root of the queue into after\" the merge");
+                Check.due(sizes, ofA + ofB == 0 ? 0 : x.rank(x.root(1)), () -> rank);
+            }
+        }
+    }
+
+    private static LeftistSpooler twoQueues(int ofA, int ofB) {
+        LeftistSpooler x = Texts.of("queue a1;queue b1;owner o;");
+        for (int n = 0; n < ofA + ofB; n++) {
+            x.submit(n < ofA ? 0 : 1, 0, (n * 37 + ofB * 11) % 50, 1);
+        }
+        return x;
     }
 
     private static LeftistSpooler forecast(int kind) {

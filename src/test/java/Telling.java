@@ -31,7 +31,7 @@ final class Telling {
 
     /** The queues, the owners, the jobs and the counters, without what can be undone or restored. */
     static String ofNow(Maker maker) {
-        return ofQueues(maker.make()) + ofOwners(maker.make()) + ofJobs(maker.make()) + heaps(maker.make());
+        return ofQueues(maker.make()) + ofOwners(maker.make()) + ofJobs(maker.make()) + ofOrder(maker.make()) + heaps(maker.make());
     }
 
     static int bufferLength(LeftistSpooler x) {
@@ -96,6 +96,16 @@ final class Telling {
             text.append("\njob ").append(j).append(' ').append(x.queueOf(j)).append(' ').append(x.ownerOf(j));
             text.append(' ').append(x.priority(j)).append(' ').append(x.pages(j)).append(' ').append(x.isPrinted(j));
             text.append(' ').append(x.isCancelled(j)).append(' ').append(x.parent(j)).append(' ').append(x.rank(j));
+        }
+        return text.toString();
+    }
+
+    private static String ofOrder(LeftistSpooler x) {
+        StringBuilder text = new StringBuilder();
+        for (int j = 0; j < x.jobCount(); j++) {
+            int job = j;
+            text.append("\nbefore ").append(j).append(' ').append(Check.answerOf(() -> x.positionOf(job)));
+            text.append(' ').append(Check.answerOf(() -> x.pagesBefore(job))).append(' ').append(Check.answerOf(() -> x.minutesUntilPrinted(job)));
         }
         return text.toString();
     }

@@ -37,6 +37,8 @@ final class TextEffectLimitTest {
         x.setPaused(1, true);
         x.writeHeap(0);
         Texts.script(x, "cancel 40;");
+        // The check may work on a copy of all this, of which no later setup shows anything.
+        x.isConsistent();
         return x;
     }
 
@@ -99,6 +101,17 @@ final class TextEffectLimitTest {
         Check.due("a second setup counts its jobs anew", "2 1", () -> {
             LeftistSpooler x = Texts.of(BASE + "job a b 1 1;job a b 2 2;");
             return x.jobCount() + " " + Texts.setup(x, small);
+        });
+        Check.due("nothing of the jobs before is left", "1 0 true 0 0 1 1.0 0.0 1 1 1", () -> {
+            LeftistSpooler x = Texts.of("queue a1;queue b1;owner a;owner b;" + "job b b 99 99;".repeat(40));
+            for (int n = 0; n < 20; n++) {
+                x.printNext(1);
+            }
+            x.isConsistent();
+            Texts.setup(x, "queue z 9;owner y;job z y 99 1;");
+            return x.jobCount() + " " + x.queueOf(0) + " " + x.isWaiting(0) + " " + x.positionOf(0) + " " + x.pagesBefore(0) + " "
+                + x.minutesUntilPrinted(0) + " " + x.meanRank() + " " + x.printedPart() + " " + x.size(0) + " " + x.height(0) + " "
+                + x.waitingPagesOfOwner(0);
         });
         Check.due("a smaller setup after a greater one", Telling.ofSpooler(() -> Texts.of(small)), () -> Telling.ofSpooler(() -> {
             LeftistSpooler x = Texts.of("queue a1;queue b1;queue c1;queue d1;queue e1;queue f1;owner a;owner b;" + "job f b 1 1;".repeat(40));

@@ -22,6 +22,7 @@ final class TextEffectLimitTest {
         scriptIsOneChange();
         scriptWithoutAStatementExecuted();
         scriptAsTheNinthChange();
+        statementsAsMethods();
         endOfExecution();
         longestExecution();
         errorReports();
@@ -92,11 +93,12 @@ final class TextEffectLimitTest {
         Check.due("a setup without a job", Telling.ofSpooler(() -> Texts.of(BASE)), () -> Telling.ofSpooler(() -> afterSetup(BASE)));
         Check.due("the output stays", Telling.ofOutput(busy()), () -> Telling.ofOutput(afterSetup(small)));
         Check.due("no output stays", "", () -> Texts.output(Texts.of(small)));
-        Check.due("a queue is not paused at first", false, () -> {
+        Check.due("a queue is not paused at first", "false false", () -> {
             LeftistSpooler x = busy();
             x.setPaused(0, true);
-            Texts.setup(x, BASE);
-            return x.isPaused(0);
+            x.isConsistent();
+            Texts.setup(x, "queue a 1;queue b 1;owner b;");
+            return x.isPaused(0) + " " + x.isPaused(1);
         });
         Check.due("a second setup counts its jobs anew", "2 1", () -> {
             LeftistSpooler x = Texts.of(BASE + "job a b 1 1;job a b 2 2;");
@@ -197,25 +199,72 @@ final class TextEffectLimitTest {
         Check.begin("promise 5, a script as the ninth change drops the oldest one");
         for (String text : new String[] {"", "cancel 39;", "submit fast ann 1 1;submit fast ann 1 1;"}) {
             Check.due(text, "7 14", () -> {
-                LeftistSpooler x = new LeftistSpooler();
-                for (int n = 0; n < 8; n++) {
-                    x.submit(0, 0, 1, 1);
-                }
-                Texts.script(x, text);
+                LeftistSpooler x = afterEightSubmits(text);
                 return x.undo() + " " + x.jobCount();
             });
             Check.due("the oldest one stays after " + text, "0 7 throws.NoSuchElementException", () -> {
-                LeftistSpooler x = new LeftistSpooler();
-                for (int n = 0; n < 8; n++) {
-                    x.submit(0, 0, 1, 1);
-                }
-                Texts.script(x, text);
+                LeftistSpooler x = afterEightSubmits(text);
                 while (x.undo() > 0) {
                     continue;
                 }
                 return "0 " + x.jobCount() + " " + Check.answerOf(() -> x.undo());
             });
         }
+    }
+
+    private static LeftistSpooler afterEightSubmits(String script) {
+        LeftistSpooler x = new LeftistSpooler();
+        for (int n = 0; n < 8; n++) {
+            x.submit(0, 0, 1, 1);
+        }
+        Texts.script(x, script);
+        return x;
+    }
+
+    interface Change {
+        Object on(LeftistSpooler x);
+    }
+
+    /** A statement and the call that it stands for leave the same. */
+    private static void same(String statement, Change method) {
+        Check.due(statement, Telling.ofNow(() -> {
+            LeftistSpooler x = busy();
+            method.on(x);
+            return x;
+        }), () -> Telling.ofNow(() -> afterScript(statement)));
+    }
+
+    private static void statementsAsMethods() {
+        Check.begin("promise 5, \"the statements of a script are executed ... as the methods\"");
+        same("submit slow bob 0 99;", x -> x.submit(1, 1, 0, 99));
+        same("submit fast ann 99 1;", x -> x.submit(0, 0, 99, 1));
+        same("print fast;", x -> x.printNext(0));
+        same("cancel 6;", x -> x.cancel(6));
+        same("priority 6 99;", x -> x.changePriority(6, 99));
+        same("priority 0 0;", x -> x.changePriority(0, 0));
+        same("move 3 slow;", x -> x.moveJob(3, 1));
+        same("move 6 fast;", x -> x.moveJob(6, 0));
+        same("merge fast slow;", x -> x.mergeQueues(0, 1));
+        same("merge slow fast;", x -> x.mergeQueues(1, 0));
+        same("pause fast;", x -> x.setPaused(0, true));
+        same("pause slow;", x -> x.setPaused(1, true));
+        same("resume fast;", x -> x.setPaused(0, false));
+        same("resume slow;", x -> x.setPaused(1, false));
+    }
+
+    private static LeftistSpooler afterScripts(String first, String second) {
+        LeftistSpooler x = new LeftistSpooler();
+        Texts.script(x, first);
+        Texts.script(x, second);
+        return x;
+    }
+
+    private static String firstStatements(String text, int count) {
+        int end = 0;
+        for (int n = 0; n < count; n++) {
+            end = text.indexOf(';', end) + 1;
+        }
+        return text.substring(0, end);
     }
 
     /** Runs a script after another one, on a new object, and tells how many statements were executed. */
@@ -225,12 +274,14 @@ final class TextEffectLimitTest {
             Texts.script(x, before);
             return Texts.script(x, text);
         });
-        Check.due("what follows is not executed: " + text, false, () -> {
-            LeftistSpooler x = new LeftistSpooler();
-            Texts.script(x, before);
-            Texts.script(x, text + "pause slow;");
-            return x.isPaused(1);
-        });
+        Check.due("what follows is not executed: " + text, false, () -> afterScripts(before, text + "pause slow;").isPaused(1));
+        Check.due("nothing but the statements before: " + text, Telling.ofNow(() -> afterScripts(before, firstStatements(text, due))),
+            () -> Telling.ofNow(() -> afterScripts(before, text + "pause slow;")));
+        Check.due("undone whole: " + text, Telling.ofNow(() -> afterScripts(before, "")), () -> Telling.ofNow(() -> {
+            LeftistSpooler x = afterScripts(before, text);
+            x.undo();
+            return x;
+        }));
     }
 
     private static void endOfExecution() {

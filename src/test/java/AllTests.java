@@ -4,6 +4,7 @@ public final class AllTests {
     }
 
     public static void main(String[] args) {
+        UsageTest.run();
         FaceTest.run();
         LanguageTest.run();
         TextTest.run();
